@@ -1243,7 +1243,7 @@ public final class TitheHeap {
 
         private int readNumber() {
             value = 0;
-            while (isWithin(spot, '0', '9')) {
+            while (spot < length && isWithin(spot, '0', '9')) {
                 if (spot - begin < 3) {
                     value = value * 10 + text[spot] - '0';
                 }
@@ -1253,30 +1253,26 @@ public final class TitheHeap {
         }
 
         private int readWord() {
-            while (isWithin(spot, 'a', 'z')) {
+            while (spot < length && isWithin(spot, 'a', 'z')) {
                 spot++;
             }
             int word = BARN;
             int from = 0;
+            boolean same = true;
             for (int i = 0; i < WORDS.length(); i++) {
-                if (WORDS.charAt(i) == ' ') {
-                    if (i - from == spot - begin && spells(from)) {
-                        return word;
-                    }
+                char letter = WORDS.charAt(i);
+                int j = begin + i - from;
+                if (letter != ' ') {
+                    same = same && j < spot && text[j] == letter;
+                } else if (same && j == spot) {
+                    return word;
+                } else {
                     word++;
                     from = i + 1;
+                    same = true;
                 }
             }
             return OTHER_WORD;
-        }
-
-        private boolean spells(int from) {
-            for (int i = begin; i < spot; i++) {
-                if (text[i] != WORDS.charAt(from + i - begin)) {
-                    return false;
-                }
-            }
-            return true;
         }
     }
 
@@ -1460,6 +1456,11 @@ public final class TitheHeap {
             return (byDeed[key] & 1023) - 1;
         }
 
+        /** The stand behind a moon in which none is spared: there always is one. */
+        int calmlyBehind(int stand) {
+            return Math.max(0, behind(stand, 0));
+        }
+
         /** The stand behind a moon in which the heap of a lot's place, if any, is spared. */
         int behindLot(int stand, int lot) {
             if (stand < 0 || stand >= atlas.stands || lot < 0 || lot >= LOTS) {
@@ -1587,24 +1588,21 @@ public final class TitheHeap {
         void walk(int from) {
             Arrays.fill(seen, NONE);
             int stand = from;
-            for (int moons = 0; moons <= MOST_STANDS; moons++) {
-                if (seen[stand] >= 0) {
-                    tail = seen[stand];
-                    period = moons - tail;
-                    return;
-                }
+            int moons = 0;
+            while (moons < MOST_STANDS && seen[stand] < 0) {
                 seen[stand] = moons;
                 path[moons] = stand;
-                stand = mill.behind(stand, 0);
+                moons++;
+                stand = mill.calmlyBehind(stand);
             }
+            tail = Math.max(0, seen[stand]);
+            period = Math.max(1, moons - tail);
         }
 
         /** The stand behind n moons of the path that was walked. */
         int standAfter(long n) {
-            if (n < tail || period < 1) {
-                return path[(int) n];
-            }
-            return path[tail + (int) ((n - tail) % period)];
+            long moons = n < tail ? n : tail + (n - tail) % period;
+            return moons < 0 || moons >= MOST_STANDS ? NONE : path[(int) moons];
         }
 
         int leadingTo(int stand, int n) {
@@ -1612,7 +1610,7 @@ public final class TitheHeap {
             for (int s = 0; s < atlas.stands; s++) {
                 int then = s;
                 for (int i = 0; i < n; i++) {
-                    then = mill.behind(then, 0);
+                    then = mill.calmlyBehind(then);
                 }
                 if (then == stand) {
                     found++;
@@ -1632,7 +1630,7 @@ public final class TitheHeap {
             longest = 0;
             for (int i = taken - 1; i >= 0; i--) {
                 int stand = path[i];
-                int then = mill.behind(stand, 0);
+                int then = mill.calmlyBehind(stand);
                 roundOf[stand] = roundOf[then];
                 seen[stand] = seen[then] + 1;
                 longest = Math.max(longest, seen[stand]);
@@ -1643,7 +1641,7 @@ public final class TitheHeap {
         private int takeAway() {
             Arrays.fill(leading, 0);
             for (int s = 0; s < atlas.stands; s++) {
-                leading[mill.behind(s, 0)]++;
+                leading[mill.calmlyBehind(s)]++;
             }
             int taken = 0;
             for (int s = 0; s < atlas.stands; s++) {
@@ -1653,10 +1651,10 @@ public final class TitheHeap {
                 }
             }
             edens = taken;
-            for (int i = 0; i < taken; i++) {
-                int then = mill.behind(path[i], 0);
+            for (int i = 0; i < taken && i < MOST_STANDS; i++) {
+                int then = mill.calmlyBehind(path[i]);
                 leading[then]--;
-                if (leading[then] == 0) {
+                if (leading[then] == 0 && taken < MOST_STANDS) {
                     path[taken] = then;
                     taken++;
                 }
@@ -1674,7 +1672,7 @@ public final class TitheHeap {
                     for (int i = 0; i < atlas.stands && roundOf[stand] == 0; i++) {
                         roundOf[stand] = rounds;
                         seen[stand] = 0;
-                        stand = mill.behind(stand, 0);
+                        stand = mill.calmlyBehind(stand);
                     }
                 }
             }
@@ -1719,7 +1717,7 @@ public final class TitheHeap {
             moons[from] = 0;
             queue[0] = from;
             reached = 1;
-            for (int i = 0; i < reached; i++) {
+            for (int i = 0; i < reached && i < MOST_STANDS; i++) {
                 if (queue[i] == target) {
                     return moons[target];
                 }
@@ -1732,7 +1730,7 @@ public final class TitheHeap {
             int greatest = atlas.sizeOf(stand, 0);
             for (int deed = 0; deed <= greatest; deed++) {
                 int then = mill.behind(stand, deed);
-                if (then >= 0 && moons[then] < 0) {
+                if (then >= 0 && moons[then] < 0 && reached < MOST_STANDS) {
                     moons[then] = moons[stand] + 1;
                     before[then] = stand;
                     deeds[then] = deed;
