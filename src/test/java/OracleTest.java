@@ -21,7 +21,7 @@ public final class OracleTest {
   private static final Map<String, Integer> calls = new TreeMap<>();
 
   public static void main(String[] args) {
-    int runs = args.length > 0 ? Integer.parseInt(args[0]) : 400;
+    int runs = args.length > 0 ? Integer.parseInt(args[0]) : 4000;
     int first = args.length > 1 ? Integer.parseInt(args[1]) : 1;
     for (int seed = first; seed < first + runs && wrong < 20; seed++) {
       new Run(seed).go();

@@ -166,6 +166,8 @@ public final class PromiseTest {
     fault("barn season 1;season 2;", 2, 14);
     fault("barn season 1;barn season 1;", 2, 14);
     fault("barn season 1;;", 2, 14);
+    fault("barn season 1;5", 2, 14);
+    fault("barn season 1;heap 1;5;", 2, 21);
     fault("barn season 1;heap 18;heap 0;", 3, 27);
     fault("barn season 1;heap 17;heap 2;", 3, 27);
     fault("barn season 1;heap 17;heap 1;", 0, -1);
@@ -204,6 +206,10 @@ public final class PromiseTest {
     fault("barn season 1;gives:((((((1))))))+((((((2))))));", 0, -1);
     fault("barn season 1;gives:(((((( if 1=1 then 1 else 2 end ))))));", 4, 27);
     fault("barn season 1;gives:(((((( [", 2, 27);
+    String ifs = "if 1=1 then ";
+    String ends = " else 1 end";
+    fault("barn season 1;gives:" + ifs.repeat(6) + "1" + ends.repeat(6) + ";", 0, -1);
+    fault("barn season 1;gives:" + ifs.repeat(7) + "1" + ends.repeat(7) + ";", 4, 92);
     fault("barn season 1;gives:(((((( \u00e9", 1, 27);
     fault("barn season 1;\theap 1;", 1, 14);
     fault("barn season 1;heap 1;\r", 1, 21);
@@ -318,6 +324,10 @@ public final class PromiseTest {
     due("by(0, 3)", x.by(0, 3), -2);
     due("by(19, -1)", x.by(19, -1), -2);
     heaps(x, 3, 2, 1);
+    x = told("barn season 0;heap 18;");
+    due("by(18, 0)", x.by(18, 0), 0);
+    due("by(0, 0)", x.by(0, 0), 1);
+    due("moon(18)", x.moon(18), 1);
     // of alike ones the first is spared: the second one gives 1, the first one would give 0
     x = told("barn season 0;heap 2;heap 2;gives:place;");
     due("by(2, 0)", x.by(2, 0), 3);
@@ -411,6 +421,12 @@ public final class PromiseTest {
     due("join(3, 3)", x.join(3, 3), 1);
     heaps(x, 6);
     due("UNDO", x.count(5), 2);
+    x = told("barn season 0;heap 9;heap 9;");
+    due("join(9, 9)", x.join(9, 9), 1);
+    heaps(x, 18);
+    due("split(18, 17)", x.split(18, 17), 2);
+    heaps(x, 17, 1);
+    due("join(17, 1)", x.join(17, 1), 1);
   }
 
   private static void p12() {
@@ -436,6 +452,12 @@ public final class PromiseTest {
     }
     x.moon(0);
     due("eldest are forgotten", x.count(5), 10);
+    TitheHeap y = told(SIX);
+    for (int i = 0; i < 12; i++) {
+      y.moon(0);
+    }
+    due("undo(10)", y.undo(10), 0);
+    due("MOONS", y.count(4), 2);
     due("undo(0)", x.undo(0), -3);
     due("undo(-1)", x.undo(-1), -3);
     due("undo(11)", x.undo(11), -3);
@@ -745,6 +767,7 @@ public final class PromiseTest {
     due("rows(3, 2)", x.rows(3, 2), 8);
     due("rows(4, 2)", x.rows(4, 2), 5);
     due("rows(18, 2)", x.rows(18, 2), 0);
+    due("rows(1, 9)", x.rows(1, 9), 0);
     due("rows(0, 2)", x.rows(0, 2), -3);
     due("rows(19, 2)", x.rows(19, 2), -3);
     due("rows(3, -1)", x.rows(3, -1), -3);
@@ -763,6 +786,16 @@ public final class PromiseTest {
     due("keeps(18)", x.keeps(18), -1);
     due("keeps(0)", x.keeps(0), -3);
     due("keeps(19)", x.keeps(19), -3);
+    // (2,2,2,2): 2 spared (3,2,1,1,1), from which all make a 4 or a 5
+    x = told("barn season 0;heap 2;heap 2;heap 2;heap 2;");
+    due("keeps(3)", x.keeps(3), 1);
+    // (6): none spared (3,3), 6 spared (6); (3,3): none spared (6), 3 spared (3,3)
+    x = told("barn season 0;heap 6;gives:3;");
+    due("keeps(3)", x.keeps(3), -1);
+    due("keeps(2)", x.keeps(2), 0);
+    // (1,1,1): none spared (3), 1 spared (2,1); (2,1): 1 goes to 2 or stays, 2 spared or not: (2,1)
+    x = told("barn season 0;heap 1;heap 1;heap 1;may:heaps>2;");
+    due("keeps(2)", x.keeps(2), -1);
   }
 
   private static void p25() {
@@ -826,6 +859,8 @@ public final class PromiseTest {
     TitheHeap x = told("barn season 0;heap 4;heap 1;heap 1;");
     fill(x, 0, 0, 3, 3);
     due("(4,1,1) under (3,3)", x.under(0), 0);
+    fill(x, 0, 0, 6);
+    due("(4,1,1) under (6)", x.under(0), 1);
     fill(x, 0, 0, 1, 1, 4);
     due("(4,1,1) under itself", x.under(0), 1);
     fill(x, 0, 0, 2, 4);
@@ -930,6 +965,15 @@ public final class PromiseTest {
     for (int i = 0; i < 3; i++) {
       due("countedBy(0, " + i + ")", x.countedBy(0, i), later[i]);
     }
+    // (6): 0 (5,1), then 1 spared (4,1,1)
+    TitheHeap y = told("barn season 0;heap 6;");
+    fill(y, 0, 0, 2, 3);
+    due("countedBy(0, 0)", y.countedBy(0, 0), 0);
+    due("countedBy(0, 1)", y.countedBy(0, 1), 1);
+    fill(y, 0, 0, 1, 2, 3);
+    due("countedBy(0, 0)", y.countedBy(0, 0), 6);
+    due("countedBy(0, 1)", y.countedBy(0, 1), 0);
+    due("countedBy(0, 2)", y.countedBy(0, 2), 1);
     fill(x, 0, 0, 5, 3);
     due("there are none", x.countedBy(0, 0), -1);
     due("there are none", x.countedBy(0, 1), -1);
@@ -1002,6 +1046,28 @@ public final class PromiseTest {
     due("seasons", x.seasons(0), 0b0000000110);
     // both have (4,2): none spared, 3 heaps or 2
     due("attempt", x.attempt(0), 0);
+    // SEASON 0, too: (5,1) by 0, (4,2) by 1; none spared (4,2) by both, 1 spared: by 0 alone
+    x = told("barn season 8;heap 6;gives:season+1;may:season<2;");
+    fill(x, 0, 0, 2);
+    due("seasons", x.seasons(0), 0b0000000011);
+    due("attempt", x.attempt(0), 1);
+    // (5,1) by SEASON 1, (3,3) by 3, and so it stays: only a size that the one lacks tells
+    x = told("barn season 8;heap 6;gives:if heaps=1 then season else 0 end;may:season=1 or season=3;");
+    fill(x, 0, 0, 2, 2);
+    due("seasons", x.seasons(0), 0b0000001010);
+    due("1 is no heap by SEASON 3", x.attempt(0), 1);
+    // SEASONS 4 and 9: (6), which stays by none spared; 6 spared: the same, so the first
+    x = told("barn season 8;heap 6;gives:size;may:season=4 or season=9;");
+    fill(x, 0, 0, 1);
+    due("all seasons", x.seasons(0), 0b1111111111);
+    due("attempt", x.attempt(0), 0);
+    // (4,2) by SEASON 2, (3,3) by SEASON 3, then each gives all
+    x = told("barn season 8;heap 6;gives:if heaps=1 then season else size end;"
+        + "may:season=2 or season=3;");
+    fill(x, 0, 0, 2);
+    due("seasons", x.seasons(0), 0b0000001100);
+    // none spared: (6) by both; 2 spared: (4,2) by SEASON 2, it can't be by 3
+    due("attempt", x.attempt(0), 2);
   }
 
   private static void byTurns() {
@@ -1016,6 +1082,7 @@ public final class PromiseTest {
     due("forces(4)", x.forces(4), 0);
     due("forces(3)", x.forces(3), 1);
     due("forces(2)", x.forces(2), -1);
+    due("forces(18)", x.forces(18), 0);
     due("forces(0)", x.forces(0), -3);
     due("forces(19)", x.forces(19), -3);
     // (1,1,1,1,1,1): the first one makes (6)
@@ -1034,6 +1101,13 @@ public final class PromiseTest {
     // (2,2,2,1): 0 (4,1,1,1), from which all make 3 at most: (4,3) (4,3) (3,3,1); nothing at once
     x = told("barn season 0;heap 2;heap 2;heap 2;heap 1;");
     due("forces(3)", x.forces(3), 2);
+    // (3,1): 1 spared (2,1,1), from which the other one makes (3,1) by none spared, for ever
+    x = told("barn season 0;heap 3;heap 1;gives:all-heaps;");
+    due("forces(1)", x.forces(1), -1);
+    // (2,1,1): 2 spared (2,2), which the other one keeps, but the first one makes (4)
+    x = told("barn season 0;heap 2;heap 1;heap 1;gives:all-heaps;");
+    due("forces(1)", x.forces(1), 3);
+    due("best(1)", x.best(1), 2);
   }
 
   private static void p37() {
@@ -1042,6 +1116,7 @@ public final class PromiseTest {
     due("it is so", x.best(4), -1);
     due("best(3)", x.best(3), 0);
     due("it doesn't", x.best(2), -1);
+    due("it is so", x.best(18), -1);
     due("best(0)", x.best(0), -3);
     due("best(19)", x.best(19), -3);
     // (2,2,1): 0 is no help, 1 is: see promise 36
@@ -1050,6 +1125,11 @@ public final class PromiseTest {
     due("it does not", x.best(1), -1);
     x = told("barn season 0;heap 2;heap 2;heap 2;heap 1;");
     due("best(3)", x.best(3), 0);
+    // (2,2,2): by none spared (3,1,1,1), of which the other one makes (4,1,1); by 2 spared
+    // (2,2,1,1), of which all make two at most
+    x = told("barn season 0;heap 2;heap 2;heap 2;gives:heaps-2;");
+    due("forces(2)", x.forces(2), 2);
+    due("best(2)", x.best(2), 2);
     // by none spared and by 3 spared there are two
     x = told("barn season 0;heap 3;heap 2;heap 1;gives:if place=0 then 2 else size end;");
     due("by(0, 1)", x.by(0, 1), 2);
@@ -1099,6 +1179,9 @@ public final class PromiseTest {
     // 2, 3 (3,1,1,1), others (4,1,1): 8
     due("above", x.chance(3, 2, 0), 4);
     due("below", x.chance(3, 2, 1), 5);
+    due("18 at most", x.chance(18, 7, 0), 1);
+    due("18 at most", x.chance(18, 7, 1), 1);
+    due("1 at most", x.chance(1, 7, 0), 0);
     due("what", x.chance(0, 9, 2), -2);
     due("what", x.chance(1, 1, -1), -2);
     due("k", x.chance(0, 1, 0), -3);
