@@ -279,14 +279,17 @@ public final class TitheHeap {
     // ---- with some spared
 
     public int soonest(int tray) {
-        int target = told(tray, 0);
+        int target = told(tray);
         return target < 0 ? target : search.reach(now.stand, target);
     }
 
     public int way(int tray, int i) {
-        int target = told(tray, i);
+        int target = told(tray);
         if (target < 0) {
             return target;
+        }
+        if (i < 0) {
+            return BAD_NUMBER;
         }
         int moons = search.reach(now.stand, target);
         return i < moons ? search.deedOnWay(target, moons - 1 - i) : NONE;
@@ -318,7 +321,7 @@ public final class TitheHeap {
     // ---- among all
 
     public int number(int tray) {
-        return told(tray, 0);
+        return told(tray);
     }
 
     public int bounded(int k, int m) {
@@ -350,7 +353,7 @@ public final class TitheHeap {
     }
 
     public int under(int tray) {
-        int other = told(tray, 0);
+        int other = told(tray);
         if (other < 0) {
             return other;
         }
@@ -690,8 +693,8 @@ public final class TitheHeap {
         return tray < 0 || tray >= TRAYS;
     }
 
-    /** The number of the stand told in a tray, or a refusal; i is refused with the sizes. */
-    private int told(int tray, int i) {
+    /** The number of the stand told in a tray, or a refusal. */
+    private int told(int tray) {
         if (noSuchTray(tray)) {
             return NO_SUCH;
         }
@@ -702,7 +705,7 @@ public final class TitheHeap {
         if (told.size < 1 || told.size > MOST) {
             return TOO_MANY;
         }
-        if (i < 0 || !told.allWithin(1, MOST)) {
+        if (!told.allWithin(1, MOST)) {
             return BAD_NUMBER;
         }
         int together = 0;

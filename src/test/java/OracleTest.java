@@ -1144,7 +1144,7 @@ public final class OracleTest {
 
     // ---- with some spared
 
-    int toldRefusal(int tray, int i) {
+    int toldRefusal(int tray) {
       if (trayRefusal(tray) < 0) {
         return trayRefusal(tray);
       }
@@ -1159,7 +1159,7 @@ public final class OracleTest {
         }
         sum += n;
       }
-      return i < 0 ? -3 : sum != together() ? -5 : 0;
+      return sum != together() ? -5 : 0;
     }
 
     List<Integer> told(int tray) {
@@ -1196,15 +1196,18 @@ public final class OracleTest {
     }
 
     int soonest(int tray) {
-      if (toldRefusal(tray, 0) < 0) {
-        return toldRefusal(tray, 0);
+      if (toldRefusal(tray) < 0) {
+        return toldRefusal(tray);
       }
       return fewest(told(tray)).getOrDefault(heaps, -1);
     }
 
     int way(int tray, int i) {
-      if (toldRefusal(tray, i) < 0) {
-        return toldRefusal(tray, i);
+      if (toldRefusal(tray) < 0) {
+        return toldRefusal(tray);
+      }
+      if (i < 0) {
+        return -3;
       }
       Map<List<Integer>, Integer> fewest = fewest(told(tray));
       if (fewest.getOrDefault(heaps, -1) <= i) {
@@ -1295,7 +1298,7 @@ public final class OracleTest {
     // ---- among all
 
     int number(int tray) {
-      return toldRefusal(tray, 0) < 0 ? toldRefusal(tray, 0) : numbers.get(told(tray));
+      return toldRefusal(tray) < 0 ? toldRefusal(tray) : numbers.get(told(tray));
     }
 
     int bounded(int k, int m) {
@@ -1326,7 +1329,7 @@ public final class OracleTest {
     }
 
     int under(int tray) {
-      return toldRefusal(tray, 0) < 0 ? toldRefusal(tray, 0) : under(heaps, told(tray)) ? 1 : 0;
+      return toldRefusal(tray) < 0 ? toldRefusal(tray) : under(heaps, told(tray)) ? 1 : 0;
     }
 
     int below() {

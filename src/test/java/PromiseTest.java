@@ -750,8 +750,9 @@ public final class PromiseTest {
     due("as it is", x.way(0, 0), -1);
     fill(x, 0, 0, 6);
     due("it can't be", x.way(0, 0), -1);
+    due("-3 comes ahead of NONE", x.way(0, -1), -3);
     fill(x, 0, 0, 5);
-    due("-3 is told ahead of -5", x.way(0, -1), -3);
+    due("all of soonest() is told ahead of -3: -5", x.way(0, -1), -5);
     x.numbers(0, 0, 0);
     due("-4 is told ahead of -3", x.way(0, -1), -4);
     due("-6 is told ahead of -3", x.way(1, -1), -6);
