@@ -124,6 +124,18 @@ public final class EdgeTest {
     Say.due("bytes", x.count(6), 0);
     Say.due("barn(0) of nothing", x.barn(0), -32);
     Say.due("what comes then is the first", Say.tell(x, "barn season 7;"), 1);
+    Say.feed(x, "barn season 19;heap 12;");
+    Say.due("a number is cut", x.barn(13), -32);
+    Say.due("at the end", x.fault(1), 13);
+    Say.feed(x, "barn season 1;heap 12;");
+    Say.due("a number is cut", x.barn(20), -32);
+    Say.due("at the end", x.fault(1), 20);
+    Say.feed(x, "barn season 1;heap 1;");
+    Say.due("a word is cut", x.barn(17), -32);
+    Say.due("at its first", x.fault(1), 14);
+    Say.feed(x, "barn season 0001;");
+    Say.due("three digits of four", x.barn(15), -32);
+    Say.due("at the end", x.fault(1), 15);
     Say.says(3, "-30 less the FAULT");
     String[] faults = {"", "barn season 1,", "barn season;", "barn season 10;",
         "barn season 1;may:not not not not not not not 1=1;"};
@@ -158,6 +170,15 @@ public final class EdgeTest {
     Say.due("laws are gone", x.gives(0), 1);
     Say.due("an IMAGE stays", x.restore(0), 0);
     Say.due("a TRAY stays", x.number(0), 5);
+    Say.due("without laws", Say.tell(x, "barn season 1;heap 9;"), 2);
+    Say.due("no law gives of an earlier text", x.gives(0), 1);
+    Say.tell(x, "barn season 1;heap 9;gives:4;may:1=2;");
+    Say.due("its law may", x.gives(0), 0);
+    Say.tell(x, "barn season 1;heap 9;gives:5;");
+    Say.due("no law may of an earlier text", x.gives(0), 5);
+    Say.tell(x, "barn season 1;heap 9;gives:6;may:1=2;heap");
+    Say.tell(x, "barn season 1;heap 9;");
+    Say.due("no laws of a text with a FAULT", x.gives(0), 1);
     Say.due("every LINE", Say.tell(x, "barn season 1;heap 1;gives:1;gives:2;may:1=1;may:1=2;"), 6);
     Say.due("count(7)", x.count(7), 6);
   }
@@ -401,6 +422,13 @@ public final class EdgeTest {
     Say.due("undo(2) of 2", x.undo(2), 0);
     counts(x, 6, 3, 5, 2, 0, 0);
     Say.due("undo(1) of none", x.undo(1), -3);
+    x = Say.toldHeaps("gives:season;", 18);
+    x.season(4);
+    x.season(7);
+    x.undo(1);
+    Say.due("gives(0) by the SEASON that came back", x.gives(0), 4);
+    x.undo(1);
+    Say.due("gives(0) by the SEASON that came back", x.gives(0), 0);
   }
 
   private static void undoForgets() {
@@ -624,6 +652,12 @@ public final class EdgeTest {
       Say.due("all(" + what + ") of 18, nothing given", still.all(what), stays[what]);
       Say.due("all(" + what + ") of 18, all given", together.all(what), ends[what]);
     }
+    // no heap of 1 gives: (4), (3,1), (2,1,1), (1,1,1,1); to (4) and (2,2) none leads
+    TitheHeap growing = Say.toldHeaps("may:size>1;", 3, 1);
+    int[] grows = {5, 2, 1, 1, 3, 5};
+    for (int what = 0; what < 6; what++) {
+      Say.due("all(" + what + ") of 4, no 1 gives", growing.all(what), grows[what]);
+    }
     Say.says(Say.TERMS, "AGAIN: a STAND to which GOING comes back from it, one MOON at least.");
     Say.due("(2) and (1,1) come AGAIN by two", Say.toldHeaps("", 2).all(2), 2);
     Say.due("(1) comes AGAIN by one", new TitheHeap().all(2), 1);
@@ -728,6 +762,12 @@ public final class EdgeTest {
     x.moon(0);
     Say.fill(x, 0, 0, 18);
     Say.due("it can't be", x.soonest(0), -1);
+    x = Say.toldHeaps("", Say.ones(18));
+    Say.fill(x, 0, 0, 18);
+    Say.due("all to one heap", x.soonest(0), 1);
+    x = Say.toldHeaps("gives:size;", 1, 1, 1);
+    Say.fill(x, 0, 0, 2, 1);
+    Say.due("(2,1) by 1 spared", x.soonest(0), 1);
     way();
     rows();
     keeps();
@@ -737,8 +777,9 @@ public final class EdgeTest {
     Say.due("(2), (1,1)", Say.toldHeaps("", 2).stands(), 2);
     // (3), (2,1), and by 1 spared (1,1,1)
     Say.due("all of 3", Say.toldHeaps("", 3).stands(), 3);
-    // from all in one heap nothing but that: all is given
     Say.due("all given", Say.toldHeaps("gives:size;", 18).stands(), 1);
+    // (1,1), none spared (2)
+    Say.due("all given", Say.toldHeaps("gives:size;", 1, 1).stands(), 2);
   }
 
   private static void way() {
@@ -797,6 +838,11 @@ public final class EdgeTest {
     Say.due("keeps(4)", x.keeps(4), 0);
     Say.due("keeps(5)", x.keeps(5), -1);
     Say.due("keeps(18)", Say.toldHeaps("", 18).keeps(18), -1);
+    Say.due("keeps(5) of (5)", Say.toldHeaps("gives:0;", 5).keeps(5), -1);
+    Say.due("keeps(4) of (5)", Say.toldHeaps("gives:0;", 5).keeps(4), 0);
+    // all is given: only by 3 spared it is (3,3), and stays so
+    Say.due("keeps(3) of (3,2,1)", Say.toldHeaps("gives:size;", 3, 2, 1).keeps(3), -1);
+    Say.due("keeps(2) of (3,2,1)", Say.toldHeaps("gives:size;", 3, 2, 1).keeps(2), 0);
     Say.due("keeps(1)", Say.toldHeaps("gives:0;", Say.ones(18)).keeps(1), -1);
     Say.due("keeps(1)", Say.toldHeaps("", 1, 1).keeps(1), -1);
     // (1,1,1): none spared (3), 1 spared (2,1)
@@ -1059,7 +1105,63 @@ public final class EdgeTest {
     // (2,2,1): none spared is no help, 1 spared is
     Say.due("best(2)", Say.toldHeaps("", 2, 2, 1).best(2), 1);
     Say.due("forces(2) within three", Say.toldHeaps("", 2, 2, 1).forces(2), 3);
+    forcing();
     takes();
+  }
+
+  private static void forcing() {
+    Say.says(Say.TERMS, "if it can do so that there are some time by then (behind a MOON, or now), "
+        + "whatever the other one does.");
+    String[] laws = {"", "gives:heaps-1;", "gives:heaps-place;may:heaps>2;",
+        "gives:if place=0 then all-heaps else 2 end;"};
+    List<int[]> all = new ArrayList<>();
+    stands(10, 10, new ArrayList<>(), all);
+    for (String law : laws) {
+      TitheHeap[] x = new TitheHeap[all.size()];
+      int[][] next = new int[x.length][19];
+      for (int s = 0; s < x.length; s++) {
+        x[s] = Say.toldHeaps(law, all.get(s));
+        for (int deed = 0; deed < 19; deed++) {
+          next[s][deed] = x[s].by(deed, 0);
+        }
+      }
+      for (int k = 1; k <= 5; k++) {
+        int[] within = within(x, next, k);
+        for (int s = 0; s < x.length; s++) {
+          Say.due("forces(" + k + ") from STAND " + s + " of 10 by " + law, x[s].forces(k), within[s]);
+        }
+      }
+    }
+  }
+
+  /** Within how many moons each stand is forced, by the words: for n = 0, 1, .. who can, whatever the other does. */
+  private static int[] within(TitheHeap[] x, int[][] next, int k) {
+    int[] within = new int[x.length];
+    boolean[] first = new boolean[x.length];
+    boolean[] second = new boolean[x.length];
+    for (int s = 0; s < x.length; s++) {
+      first[s] = x[s].count(1) <= k;
+      second[s] = first[s];
+      within[s] = first[s] ? 0 : -1;
+    }
+    for (int n = 1; n <= 2 * x.length; n++) {
+      boolean[] firstThen = first.clone();
+      boolean[] secondThen = second.clone();
+      for (int s = 0; s < x.length; s++) {
+        boolean any = false;
+        boolean every = true;
+        for (int then : next[s]) {
+          any |= then >= 0 && second[then];
+          every &= then < 0 || first[then];
+        }
+        firstThen[s] |= any;
+        secondThen[s] |= every;
+        within[s] = within[s] < 0 && firstThen[s] ? n : within[s];
+      }
+      first = firstThen;
+      second = secondThen;
+    }
+    return within;
   }
 
   private static void takes() {

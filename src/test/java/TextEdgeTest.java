@@ -191,6 +191,29 @@ public final class TextEdgeTest {
     read(HEAD + "heapp 1;", 2, 14);
     read(HEAD + "eap 1;", 2, 14);
     read(HEAD + "heapheapheapheapheap 1;", 2, 14);
+    String text = "barn season 1;heap 2;gives:if size>place and heaps<all or not season=3 then 1 else 2 end;may:1=1;";
+    good(text);
+    for (int i = 0; i < text.length(); i++) {
+      if (isLetter(text, i)) {
+        changed(text, i);
+      }
+    }
+  }
+
+  private static boolean isLetter(String text, int i) {
+    return i >= 0 && i < text.length() && text.charAt(i) >= 'a' && text.charAt(i) <= 'z';
+  }
+
+  /** A letter of a word is another one, is gone, or comes twice: then the word can't stand there. */
+  private static void changed(String text, int i) {
+    int begin = i;
+    while (isLetter(text, begin - 1)) {
+      begin--;
+    }
+    char other = text.charAt(i) == 'x' ? 'y' : 'x';
+    read(text.substring(0, i) + other + text.substring(i + 1), 2, begin);
+    read(text.substring(0, i) + text.charAt(i) + text.substring(i), 2, begin);
+    read(text.substring(0, i) + text.substring(i + 1), 2, begin);
   }
 
   private static void digits() {
