@@ -1919,7 +1919,7 @@ public final class TitheHeap {
 
         /** Strikes, from the last level on, the stands from which no row goes on to the end. */
         void prune(int levels) {
-            for (int level = Math.min(levels, LEVELS) - 1; level >= 0; level--) {
+            for (int level = Math.min(levels, LEVELS - 1) - 1; level >= 0; level--) {
                 for (int s = 0; s < atlas.stands; s++) {
                     int key = level * MOST_STANDS + s;
                     if (ways[key] > 0 && firstDeed(s, level) < 0) {

@@ -1,10 +1,11 @@
 import java.util.ArrayList;
 import java.util.List;
+import java.util.Set;
 
 /**
  * Rows that are used again must not show what was asked before: each question is asked of a new
  * object, and then, with the same answer due, behind each other question, behind other barns,
- * seasons and images, and behind deeds that were undone.
+ * rows of seasons and images, and behind deeds that were undone.
  */
 public final class MemoryTest {
   private static final String[] BARNS = {
@@ -15,6 +16,9 @@ public final class MemoryTest {
     "barn season 7;heap 6;heap 2;gives:all-heaps-place;may:not size=season-5;",
   };
   private static final String FULL = "barn season 1;heap 4;heap 4;heap 3;heap 3;heap 2;heap 1;heap 1;gives:size*place+1;";
+
+  private static final Set<String> OF_SEASONS =
+      Set.of("gives(0)", "by(0, 0)", "by(2, 0)", "at(5)", "rows(4, 1)", "chance(4, 2, 1)", "mean(3, 0)");
 
   private interface Question {
     long of(TitheHeap x);
@@ -36,6 +40,7 @@ public final class MemoryTest {
       behindAnotherBarn(barn, due);
       behindDeeds(barn, due);
       behindImages(barn, due);
+      behindSeasons(barn);
     }
     Say.end("MemoryTest");
   }
@@ -154,6 +159,33 @@ public final class MemoryTest {
       questions.get(i).of(x);
       x.undo(4);
       ask(x, i, due, "deeds that were undone");
+    }
+  }
+
+  /** What was worked out in one season must not come back in a later one, however many lie between. */
+  private static void behindSeasons(String barn) {
+    for (int i = 0; i < questions.size(); i++) {
+      if (!OF_SEASONS.contains(names.get(i))) {
+        continue;
+      }
+      for (int first = 0; first < 10; first++) {
+        for (int second = first + 1; second <= 2 * first + 4; second++) {
+          TitheHeap x = fresh(barn);
+          seasons(x, 0, first);
+          questions.get(i).of(x);
+          seasons(x, first + 1, second);
+          TitheHeap twin = fresh(barn);
+          seasons(twin, second, second);
+          Say.due(names.get(i) + " in the season " + second + " behind " + first, questions.get(i).of(x),
+              questions.get(i).of(twin));
+        }
+      }
+    }
+  }
+
+  private static void seasons(TitheHeap x, int from, int to) {
+    for (int turn = from; turn <= to; turn++) {
+      x.season(3 * turn % 10);
     }
   }
 
